@@ -262,6 +262,8 @@ public final class StreamSplitter {
         return lane == null ? NONE : lane.clock;
     }
 
+    // ---- writing
+
     public int plan(int number, int pid) throws IllegalArgumentException {
         if (number < 1 || number > 65535 || isNoPid(pid)) {
             throw new IllegalArgumentException("number is not 1 .. 65535, or pid not 0 .. 8191");
@@ -517,7 +519,7 @@ public final class StreamSplitter {
                 counts[BAD]++;
                 return null;
             }
-            int pid = (int) tape.bits(8 * start + 11, 13);
+            int pid = (tape.at(start + 1) & 31) << 8 | tape.at(start + 2);
             Lane lane = lanes.findOrMake(pid);
             int flags = extra > 0 ? tape.at(start + 5) : 0;
             if ((flags & 16) != 0 && extra >= 7) {
@@ -689,7 +691,7 @@ public final class StreamSplitter {
             }
         }
 
-        /** Answers the place of the piece's first data, if one begins. */
+        /** Answers the place of the piece's first data; the packet's end if none begins. */
         private int beginPiece(Lane lane, int from, int to) {
             int extra = tape.at(from + 8);
             int data = from + 9 + extra;
@@ -977,7 +979,7 @@ public final class StreamSplitter {
             boolean timed = !soon && section.bit(160);
             int lengthAt = soon ? 20 : timed ? 25 : 21;
             int end = (lasts ? lengthAt + 5 : lengthAt) + 4;
-            // A bit that isn't there reads as 0, which never makes a section that is too short enough.
+            // A bit that the section has not reads as 0; the end found by it is not in the section either.
             if (!section.bit(153) || end > section.size) {
                 return;
             }

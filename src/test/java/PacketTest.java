@@ -116,6 +116,10 @@ public final class PacketTest {
         counts("and again since the count became this", x, 6, 0, 2, 0);
         Wire.send(x, Wire.packet(9, false, 6, NOTHING), Wire.packetWith(9, false, 9, new int[] {127}, rest));
         counts("the other bits tell no leap", x, 8, 0, 2, 1);
+        Wire.send(x, Wire.packet(9, false, 12, Wire.fill(184, 128)));
+        counts("nor does a payload", x, 9, 0, 2, 2);
+        Wire.send(x, Wire.packet(9, false, 15, Wire.fill(183, 128)));
+        counts("nor one behind a field of length 0", x, 10, 0, 2, 3);
     }
 
     private static void scrambled() {
@@ -172,6 +176,9 @@ public final class PacketTest {
         unset[0] = 239;
         Wire.send(x, Wire.packetWith(12, false, 1, unset, Wire.fill(176, 0)));
         Check.due("P is 0", x.clock(12), -1);
+        Wire.send(x, Wire.packet(12, false, 2, Wire.fill(184, 16)));
+        Wire.send(x, Wire.packet(12, false, 3, Wire.fill(183, 16)));
+        Check.due("a payload sets none", x.clock(12), -1);
         Check.illegal("clock -1", () -> x.clock(-1));
         Check.illegal("clock 8192", () -> x.clock(8192));
     }

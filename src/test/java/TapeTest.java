@@ -103,6 +103,9 @@ public final class TapeTest {
         x.seal(1, 10);
         Wire.tapeIs("the known check of this text", x,
                 new int[] {5}, text, new int[] {0x03, 0x76, 0xE6, 0xE7, 6});
+        x.seal(0, 1);
+        int check = (int) Wire.check(new int[] {5});
+        Check.due("from the first byte on", x.tape(1) & 0xFFFFFFFFL, Integer.reverseBytes(check) & 0xFFFFFFFFL);
         x.seal(11, 11);
         Check.due("the check of nothing", x.tape(11), 0xFFFFFFFFL);
         Check.outside("seal: three bytes alone", () -> x.seal(0, 12));

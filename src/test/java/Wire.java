@@ -153,8 +153,13 @@ final class Wire {
     static void tapeIs(String what, StreamSplitter x, int[]... rows) {
         int[] want = join(rows);
         Check.due(what + ": length", x.told(0), want.length);
-        for (int i = 0; i < want.length; i++) {
-            Check.due(what + ": byte " + i, x.tape(i) & 255, want[i]);
+        // Eight bytes a call: an object answers 512 calls.
+        for (int i = 0; i < want.length; i += 8) {
+            long bytes = 0;
+            for (int k = 0; k < 8 && i + k < want.length; k++) {
+                bytes |= (long) want[i + k] << 8 * k;
+            }
+            Check.due(what + ": bytes from " + i, x.tape(i), bytes);
         }
     }
 }
