@@ -1073,9 +1073,8 @@ public final class StreamSplitter {
         }
 
         void endSection() {
-            int size = tape.size - sectionStart - 3 + CHECK_BYTES;
-            tape.put(sectionStart + 1, tape.at(sectionStart + 1) | size >> 8);
-            tape.put(sectionStart + 2, size);
+            // In one packet the size needs no more than the last eight of its bits.
+            tape.put(sectionStart + 2, tape.size - sectionStart - 3 + CHECK_BYTES);
             putNumber(tape.checkOf(sectionStart, tape.size), CHECK_BYTES);
             for (int k = left; k > 0; k--) {
                 putNumber(STUFFING, 1);
