@@ -2,6 +2,7 @@
 final class Check {
     private static int right = 0;
     private static int wrong = 0;
+    private static String sentence = "";
 
     private Check() {
     }
@@ -10,12 +11,21 @@ final class Check {
         void run();
     }
 
+    /** The words of the document that the checks from here on are for. */
+    static void sentence(String words) {
+        sentence = "\"" + words + "\" ";
+    }
+
     static void due(String what, long got, long want) {
-        if (got == want) {
+        count(got == want, what + ": answered " + got + ", due is " + want);
+    }
+
+    private static void count(boolean asDue, String complaint) {
+        if (asDue) {
             right++;
         } else {
             wrong++;
-            System.out.println(what + ": answered " + got + ", due is " + want);
+            System.out.println(sentence + complaint);
         }
     }
 
@@ -34,12 +44,7 @@ final class Check {
         } catch (RuntimeException e) {
             got = e.getClass();
         }
-        if (got == want) {
-            right++;
-        } else {
-            wrong++;
-            System.out.println(what + ": threw " + got + ", due is " + want);
-        }
+        count(got == want, what + ": threw " + got + ", due is " + want);
     }
 
     static void end() {

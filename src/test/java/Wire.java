@@ -57,6 +57,17 @@ final class Wire {
         return out;
     }
 
+    static int[] part(int[] row, int from, int to) {
+        return Arrays.copyOfRange(row, from, to);
+    }
+
+    /** The row with another byte at a place. */
+    static int[] with(int[] row, int at, int value) {
+        int[] out = row.clone();
+        out[at] = value;
+        return out;
+    }
+
     static long check(int[] bytes) {
         long check = 0xFFFFFFFFL;
         for (int value : bytes) {
@@ -129,6 +140,47 @@ final class Wire {
     static int[] sections(int pid, int count, int[]... sections) {
         int[] payload = join(new int[] {0}, join(sections));
         return packet(pid, true, count, join(payload, fill(184 - payload.length, 255)));
+    }
+
+    /** A payload with S: the byte p, then rows. */
+    static int[] pointed(int p, int[]... rows) {
+        return join(new int[] {p}, join(rows));
+    }
+
+    /** A good section of any size from 12 on that isn't used anywhere, for its byte 0. */
+    static int[] idle(int size) {
+        return section(join(new int[] {9, 0, 0}, fill(size - 7, 5)));
+    }
+
+    /** The head of a piece up to h; the h bytes follow it. */
+    static int[] pieceHead(int kind, int n, int flags, int h) {
+        return row().bytes(0, 0, 1, kind).n(16, n).bytes(0x80, flags, h).end();
+    }
+
+    /** The five bytes of a time, single bits 1. */
+    static int[] time(long time) {
+        return row().n(4, 2).n(3, time >> 30).n(1, 1).n(15, time >> 15).n(1, 1).n(15, time).n(1, 1).end();
+    }
+
+    /** An object with one programme in force: pieces on PIDs 101 and 103, orders on 102. */
+    static StreamSplitter tuned() {
+        StreamSplitter x = new StreamSplitter();
+        x.plan(1, 100);
+        x.addStream(0, 2, 101);
+        x.addStream(0, 134, 102);
+        x.addStream(0, 3, 103);
+        x.writeTables(0);
+        x.take();
+        return x;
+    }
+
+    /** Makes a tape of so many bytes: packets of empty pieces of PID 8, the first one cut. */
+    static void tapeOf(StreamSplitter x, int bytes) {
+        int packets = (bytes + 187) / 188;
+        for (int left = packets; left > 0; left -= 21) {
+            x.writePiece(8, -1, 184 * Math.min(left, 21) - 9, 1, true);
+        }
+        x.drop(0, packets * 188 - bytes);
     }
 
     static void feed(StreamSplitter x, int[]... rows) {
