@@ -532,7 +532,7 @@ public final class OrderEdgesTest {
     }
 
     private static void firstOfThese() {
-        Check.sentence("as long as there is an order that waits and is DUE, the first of these is obeyed.");
+        Check.sentence("the first of these is obeyed.");
         StreamSplitter x = Wire.tuned();
         give(x, 1, TIMED, 300, 0);
         give(x, 2, AWAY | TIMED, 200, 0);

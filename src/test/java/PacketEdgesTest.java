@@ -31,6 +31,7 @@ public final class PacketEdgesTest {
         scrambledGivesUp();
         scrambledMovesTheCount();
         bitThatMeansNothing();
+        beginningBit();
         toldRefused();
         Check.end();
     }
@@ -476,6 +477,21 @@ public final class PacketEdgesTest {
         }
         for (int bit = 0; bit < 13; bit++) {
             Check.due("PID bit " + bit, x.clock(1 << bit), 300 * bit);
+        }
+    }
+
+    private static void beginningBit() {
+        Check.sentence("a bit E, a bit S, a bit, 13 bits PID");
+        int[] pids = {1, 256, 512, 1024, 2048, 4096, 8190};
+        for (int pid : pids) {
+            StreamSplitter x = new StreamSplitter();
+            x.plan(1, 100);
+            x.addStream(0, 2, pid);
+            x.writeTables(0);
+            x.writePiece(pid, -1, 400, 1, true);
+            x.take();
+            Check.due("no other bit is S, PID " + pid, x.told(9), 1);
+            Check.due("nothing is given up, PID " + pid, x.told(8), 0);
         }
     }
 

@@ -27,6 +27,7 @@ public final class PieceEdgesTest {
         givenUpNot();
         sixteenKept();
         notSoMany();
+        above15();
         pieceRefused();
         Check.end();
     }
@@ -55,8 +56,8 @@ public final class PieceEdgesTest {
     }
 
     private static void endsWhatIsGathered() {
-        Check.sentence("A payload with S ends what is gathered: that is DONE if its size was not told, else it is"
-                + " given up.");
+        Check.sentence("A payload with S ends what is gathered: that is DONE if its size was not told (also without"
+                + " any data), else it is given up.");
         StreamSplitter x = Wire.tuned();
         begin(x, 0, head(1, 0), Wire.fill(4, 1));
         counts("not yet", x, 0, 0);
@@ -287,7 +288,8 @@ public final class PieceEdgesTest {
     }
 
     private static void doneAsSoonAs() {
-        Check.sentence("It is done as soon as it has all bytes of a told size; what comes then is left.");
+        Check.sentence("It is done as soon as it has all bytes of a told size (at once, if these are none); what comes"
+                + " then is left.");
         for (int size : new int[] {174, 175, 176}) {
             StreamSplitter x = Wire.tuned();
             begin(x, 0, head(9, 3 + size), Wire.fill(175, 1));
@@ -450,6 +452,22 @@ public final class PieceEdgesTest {
             x.writePiece(101 + 8192, 5, 1, 1, true);
             x.take();
             Check.due("one more", x.piece(done, 0), 101);
+        }
+    }
+
+    private static void above15() {
+        Check.sentence("NONE when there are not so many, or k is above 15.");
+        StreamSplitter x = Wire.tuned();
+        for (int done = 1; done <= 40; done++) {
+            x.writePiece(101, -1, 0, 1, true);
+        }
+        x.take();
+        Check.due("forty are done", x.told(9), 40);
+        for (int what = 0; what <= 4; what++) {
+            Check.due("15", x.piece(15, what), what == 0 ? 101 : what == 2 ? -1 : 0);
+            for (int k : new int[] {16, 17, 31, 32, 39, 40}) {
+                Check.due("k " + k, x.piece(k, what), -1);
+            }
         }
     }
 

@@ -22,6 +22,8 @@ public final class TableEdgesTest {
         planKeeps();
         inForceGivesUp();
         notInForceGivesUpNothing();
+        brokenTablesGiveUpNothing();
+        ordersGiveUpNothing();
         pidZero();
         pidOfPlanAndStream();
         typeOfOrders();
@@ -376,6 +378,43 @@ public final class TableEdgesTest {
         Check.due("what was gathered goes on", x.told(7), 1);
     }
 
+    private static void brokenTablesGiveUpNothing() {
+        Check.sentence("When a list or plan comes into force, all that is gathered on other PIDs is given up.");
+        StreamSplitter x = gathering();
+        int[] list = Wire.part(Wire.list(2, 1, 100), 0, 12);
+        int[] plan = Wire.part(Wire.plan(1, 2, 7), 0, 12);
+        int[] lists = {};
+        int[] plans = {};
+        int[][] changes = {{0, 9}, {5, 4}, {6, 1}, {7, 1}};
+        for (int[] change : changes) {
+            lists = Wire.join(lists, Wire.section(Wire.with(list, change[0], change[1])));
+            plans = Wire.join(plans, Wire.section(Wire.with(plan, change[0], change[1])));
+        }
+        Wire.send(x, Wire.packet(0, true, 1, Wire.pointed(0, lists)));
+        Wire.send(x, Wire.packet(100, true, 1, Wire.pointed(0, plans)));
+        Check.due("all are good", x.told(6), 10);
+        Check.due("none is used", x.told(8), 0);
+        Wire.send(x, Wire.packet(100, true, 2, Wire.pointed(0, Wire.with(Wire.section(plan), 8, 1))));
+        Check.due("a wrong one", x.told(7), 1);
+        Check.due("neither", x.told(8), 0);
+        Wire.send(x, Wire.packet(100, true, 3, Wire.pointed(0, Wire.section(plan))));
+        Check.due("one that is used", x.told(8), 4);
+    }
+
+    private static void ordersGiveUpNothing() {
+        Check.sentence("When a list or plan comes into force, all that is gathered on other PIDs is given up.");
+        StreamSplitter x = Wire.tuned();
+        x.writePiece(101, -1, 1, 1, false);
+        x.writeOrder(102, 1, 2 | 4, 0, 0);
+        x.writeOrder(102, 2, 32, 5000, 0);
+        x.writeOrder(102, 2, 1, 0, 0);
+        x.take();
+        Wire.send(x, Wire.packet(102, true, 3, Wire.pointed(0, Wire.idle(12))));
+        Check.due("all are good", x.told(6), 6);
+        Check.due("none gives up", x.told(8), 0);
+        Check.due("one was obeyed", x.programme(0, 5), 1);
+    }
+
     private static void pidZero() {
         Check.sentence("WHAT A PID IS FOR: 0: the LIST.");
         StreamSplitter x = listed(1, 0, 2, 200);
@@ -459,7 +498,8 @@ public final class TableEdgesTest {
     }
 
     private static void programmeWithoutPlan() {
-        Check.sentence("how many streams it has (4; 0 without a plan) ... NONE for 2 and 3 without a plan.");
+        Check.sentence("how many streams it has (4; 0 without a plan), 1 if it is away, else 0 (5), how many orders"
+                + " wait (6); NONE for 2 and 3 without a plan.");
         StreamSplitter x = listed(1, 100);
         programme("without", x, 0, 1, 100, -1, -1, 0, 0, 0);
         Wire.send(x, Wire.sections(100, 0, Wire.plan(1, 0, 0)));

@@ -200,7 +200,11 @@ public final class TapeEdgesTest {
         }
         StreamSplitter full = new StreamSplitter();
         Wire.tapeOf(full, 9400);
-        Check.due("all of a full tape", full.drop(0, 9400), 0);
+        Check.due("the last of a full tape", full.drop(9399, 1), 9399);
+        full.spoil(9398, 77);
+        Check.due("from its midst", full.drop(9000, 200), 9199);
+        Check.due("what was behind", full.tape(9198), 77);
+        Check.due("all of it", full.drop(0, 9199), 0);
     }
 
     private static void dropRefused() {

@@ -15,6 +15,7 @@ public final class WriteEdgesTest {
         noRoomForPieces();
         noRoomForOrders();
         planRefused();
+        planWithoutStreams();
         planFull();
         addStreamRefused();
         addStreamFull();
@@ -220,6 +221,19 @@ public final class WriteEdgesTest {
         }
         Check.due("none was added", x.plan(1, 0), 1);
         Check.due("the largest", x.plan(65535, 8191), 2);
+    }
+
+    private static void planWithoutStreams() {
+        Check.sentence("A programme more is to be written, without streams.");
+        StreamSplitter x = new StreamSplitter();
+        x.plan(1, 100);
+        x.addStream(0, 2, 101);
+        x.plan(1, 100);
+        Check.due("the same again, without them", x.writeTables(4), 3 * 188);
+        Wire.tapeIs("both", x, Wire.sections(0, 0, Wire.list(4, 1, 100, 1, 100)),
+                Wire.sections(100, 0, Wire.plan(1, 4, 101, 2, 101)), Wire.sections(100, 1, Wire.plan(1, 4, 8191)));
+        Check.due("the first of its streams", x.addStream(1, 2, 101), 1);
+        Check.due("the second of the other's", x.addStream(0, 2, 101), 2);
     }
 
     private static void planFull() {
@@ -431,7 +445,8 @@ public final class WriteEdgesTest {
     }
 
     private static void pieceSizeTold() {
-        Check.sentence("Its size is told if it is told to be; F is 2 and h 5 with a time, else 0 and 0");
+        Check.sentence("Its size is told if it is told to be; F is 2 and h 5 with a time (its 4 bits 2, its single"
+                + " bits 1), else 0 and 0; the six bits behind 10 and behind F are 0.");
         StreamSplitter x = new StreamSplitter();
         int[] want = {};
         int count = 0;
